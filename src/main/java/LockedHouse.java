@@ -666,7 +666,7 @@ public final class LockedHouse {
         }
 
         boolean isSo(int code, int prop, int state) {
-            return hasProp(prop) && props.get(prop).stateIn(code) == state;
+            return prop >= 0 && prop < props.size() && props.get(prop).stateIn(code) == state;
         }
 
         boolean isEnd(int code) {
@@ -941,10 +941,15 @@ public final class LockedHouse {
             if (isCharted) {
                 return;
             }
-            for (int code = 0; code < house.all && code < most; code++) {
-                opens[code] = house.openSteps(code);
+            reach.begin();
+            reach.join(house.start);
+            for (int i = 0; i < reach.size && i < most; i++) {
+                int code = reach.codeAt(i);
+                if (fits(code)) {
+                    opens[code] = house.openSteps(code);
+                    joinBehind(code, reach, NONE, NONE);
+                }
             }
-            spread(reach, NONE, NONE);
             isCharted = true;
         }
 
@@ -956,19 +961,12 @@ public final class LockedHouse {
             return fits(code) && (opens[code] >> step & 1) == 1;
         }
 
-        /** Lines up what is come to by MOVES, but nothing in which the shunned PROP has that STATE. */
-        private void spread(Line to, int shunned, int state) {
-            to.begin();
-            if (!house.isSo(house.start, shunned, state)) {
-                to.join(house.start);
-            }
-            for (int i = 0; i < to.size && i < most; i++) {
-                int code = to.codeAt(i);
-                for (int s = 0; s < house.steps.size(); s++) {
-                    int next = isOpen(code, s) ? house.steps.get(s).codeAfter(code) : NONE;
-                    if (next != NONE && !house.isSo(next, shunned, state)) {
-                        to.join(next);
-                    }
+        /** Lines up the CODES behind one, but none in which the shunned PROP has that STATE. */
+        private void joinBehind(int code, Line to, int shunned, int state) {
+            for (int s = 0; s < house.steps.size(); s++) {
+                int next = isOpen(code, s) ? house.steps.get(s).codeAfter(code) : NONE;
+                if (next != NONE && !house.isSo(next, shunned, state)) {
+                    to.join(next);
                 }
             }
         }
@@ -979,6 +977,10 @@ public final class LockedHouse {
             }
             ends.begin();
             for (int code = 0; code < house.all; code++) {
+                // What is not REACHED was not charted, but has least ways too.
+                if (fits(code) && !reach.has(code)) {
+                    opens[code] = house.openSteps(code);
+                }
                 if (house.isEnd(code)) {
                     ends.offer(code, 0);
                 }
@@ -1050,12 +1052,17 @@ public final class LockedHouse {
             return NONE;
         }
 
+        /** Whether some way comes to what is asked past all that is shunned. */
         boolean comesPast(int prop, int state, int shunned, int shunnedState) {
-            spread(line, shunned, shunnedState);
-            for (int i = 0; i < line.size; i++) {
+            line.begin();
+            if (!house.isSo(house.start, shunned, shunnedState)) {
+                line.join(house.start);
+            }
+            for (int i = 0; i < line.size && i < most; i++) {
                 if (house.isSo(line.codeAt(i), prop, state)) {
                     return true;
                 }
+                joinBehind(line.codeAt(i), line, shunned, shunnedState);
             }
             return false;
         }
