@@ -13,7 +13,11 @@ final class ModelTest {
             Random random = new Random(seed);
             LockedHouse x = new LockedHouse();
             Model m = new Model();
-            build(x, m, random);
+            if (seed % 3 == 0) {
+                buildGraph(x, m, random);
+            } else {
+                build(x, m, random);
+            }
             String name = "seed " + seed + " ";
             compareCodes(name, x, m);
             compareAll(name, x, m, random);
@@ -42,6 +46,46 @@ final class ModelTest {
         for (int p = 0; p < props; p++) {
             addRule(x, m, random, p);
         }
+    }
+
+    /** STEPS that go from one CODE to another alone: any graph of 16 or 27 CODES, every other one without rings. */
+    private static void buildGraph(LockedHouse x, Model m, Random random) {
+        int k = 3 + random.nextInt(2);
+        int props = k == 3 ? 3 : 2;
+        for (int p = 0; p < props; p++) {
+            DUE.is("prop", x.prop(k, 0), p);
+            m.states.add(k);
+            m.firsts.add(0);
+        }
+        boolean hasRings = random.nextBoolean();
+        for (int s = 0; s < 22; s++) {
+            Model.StepOf step = new Model.StepOf();
+            step.hands = 1;
+            step.ticks = 1 + random.nextInt(random.nextBoolean() ? 100 : 10);
+            step.room = random.nextInt(8);
+            DUE.is("step", x.step(0, 1, step.ticks, step.room), s);
+            m.steps.add(step);
+            int one = random.nextInt(m.all());
+            int other = random.nextInt(m.all());
+            int from = hasRings ? one : Math.min(one, other);
+            int to = hasRings ? other : Math.max(one, other);
+            if (!hasRings && from == to || random.nextInt(4) == 0) {
+                from = 0;
+                to = 1 + random.nextInt(m.all() - 1);
+            }
+            for (int p = 0; p < props; p++) {
+                step.needs.add(new Model.Pair(p, m.situation(from).get(p)));
+                step.gives.add(new Model.Pair(p, m.situation(to).get(p)));
+                DUE.yes("need", x.need(s, p, m.situation(from).get(p)));
+                DUE.yes("give", x.give(s, p, m.situation(to).get(p)));
+            }
+        }
+        int end = m.all() - 1 - random.nextInt(3);
+        for (int p = 0; p < props; p++) {
+            m.goals.add(new Model.Pair(p, m.situation(end).get(p)));
+            DUE.yes("goal", x.goal(p, m.situation(end).get(p)));
+        }
+        m.forget();
     }
 
     private static void addProp(LockedHouse x, Model m, Random random) {

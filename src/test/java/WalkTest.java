@@ -10,6 +10,7 @@ final class WalkTest {
         noSuchCodes();
         endStopsMoves();
         leastAndHint();
+        leastFoundLate();
         hintIsTheLeastStepOfALeastWay();
         hintGoesToNoLostCode();
         longestOfADag();
@@ -165,6 +166,35 @@ final class WalkTest {
         DUE.is("hint in it", x.hint(3), -1);
         DUE.is("way in it", x.way(3), 0);
         DUE.rowIs("way in it", x);
+    }
+
+    /** Nodes are CODES: a way found late makes one less that waited behind others. */
+    private static void leastFoundLate() {
+        LockedHouse x = houseOf(4, 4);
+        x.goal(0, 0);
+        x.goal(1, 0);
+        edge(x, 1, 0, 90);
+        edge(x, 2, 0, 50);
+        edge(x, 3, 0, 1);
+        edge(x, 4, 0, 60);
+        edge(x, 1, 3, 2);
+        edge(x, 5, 1, 3);
+        edge(x, 5, 2, 1);
+        edge(x, 6, 5, 1);
+        int[] want = {0, 3, 50, 1, 60, 6, 7, -2};
+        for (int c = 0; c < want.length; c++) {
+            DUE.is("least " + c, x.least(c), want[c]);
+        }
+        DUE.is("way", x.way(6), 4);
+        DUE.rowIs("way", x, 7, 5, 4, 2);
+    }
+
+    private static void edge(LockedHouse x, int from, int to, int ticks) {
+        int s = x.step(0, 1, ticks, 0);
+        x.need(s, 0, from % 4);
+        x.need(s, 1, from / 4);
+        x.give(s, 0, to % 4);
+        x.give(s, 1, to / 4);
     }
 
     private static void hintIsTheLeastStepOfALeastWay() {
@@ -395,9 +425,13 @@ final class WalkTest {
         }
         x.give(16, 4, 1);
         DUE.is("ALL", x.count(3), 16384);
+        DUE.is("least asked first of all", x.least(16383), 0);
         DUE.is("reached", x.reached(), 16 * 256 + 1);
         DUE.is("least", x.least(0), 5 * 256);
         DUE.is("longest", x.longest(), 5 * 256);
+        // Enough ONCE done ahead: a CODE that is not REACHED, with PROPS as at first.
+        DUE.is("least of all but one done", x.least(512 * 14), 2 * 256);
+        DUE.is("least where LAST was done", x.least(512 * 16), LockedHouse.SPENT);
         DUE.is("trap", x.trap(), 0);
         DUE.is("way", x.way(0), 5 * 256);
         for (int n = 0; n < 5 * 256; n++) {
