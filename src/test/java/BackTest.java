@@ -18,16 +18,8 @@ final class BackTest {
         DUE.end("BackTest");
     }
 
-    private static LockedHouse houseOf(int k, int props) {
-        LockedHouse x = new LockedHouse();
-        for (int p = 0; p < props; p++) {
-            x.prop(k, 0);
-        }
-        return x;
-    }
-
     private static void noRules() {
-        LockedHouse x = houseOf(2, 12);
+        LockedHouse x = Houses.alike(12, 2);
         DUE.is("none moved", x.back(0), 0);
         DUE.rowIs("none moved", x);
         DUE.is("all moved", x.back(4095), 12);
@@ -52,14 +44,14 @@ final class BackTest {
     }
 
     private static void behindAnother() {
-        LockedHouse x = houseOf(2, 3);
+        LockedHouse x = Houses.alike(3, 2);
         x.rule(0, 2, 0);
         DUE.is("0 behind 2", x.back(7), 3);
         DUE.rowIs("0 behind 2", x, 1, 2, 0);
     }
 
     private static void aheadOfAnother() {
-        LockedHouse x = houseOf(2, 3);
+        LockedHouse x = Houses.alike(3, 2);
         x.rule(2, 0, 1);
         DUE.is("2 ahead of 0", x.back(7), 3);
         DUE.rowIs("2 ahead of 0", x, 1, 2, 0);
@@ -67,7 +59,7 @@ final class BackTest {
 
     /** 0 could be put back at once, but then 1 never. */
     private static void leastThatLeavesOne() {
-        LockedHouse x = houseOf(2, 4);
+        LockedHouse x = Houses.alike(4, 2);
         x.rule(1, 0, 1);
         x.rule(3, 1, 1);
         DUE.is("3, then 1, then 0", x.back(15), 4);
@@ -77,7 +69,7 @@ final class BackTest {
     }
 
     private static void chains() {
-        LockedHouse x = houseOf(2, 12);
+        LockedHouse x = Houses.alike(12, 2);
         for (int p = 0; p < 11; p++) {
             x.rule(p, p + 1, 0);
         }
@@ -91,7 +83,7 @@ final class BackTest {
     }
 
     private static void rings() {
-        LockedHouse x = houseOf(2, 3);
+        LockedHouse x = Houses.alike(3, 2);
         x.rule(0, 1, 0);
         x.rule(1, 0, 0);
         DUE.is("each behind the other", x.back(3), -2);
@@ -106,7 +98,7 @@ final class BackTest {
     }
 
     private static void neverSo() {
-        LockedHouse x = houseOf(3, 2);
+        LockedHouse x = Houses.alike(2, 3);
         x.rule(0, 1, 2);
         DUE.is("1 is 1, then 0, never 2", x.back(1 + 3), -2);
         DUE.is("1 is 2 now", x.back(1 + 6), 2);
@@ -114,7 +106,7 @@ final class BackTest {
     }
 
     private static void otherNotMoved() {
-        LockedHouse x = houseOf(2, 2);
+        LockedHouse x = Houses.alike(2, 2);
         x.rule(0, 1, 1);
         DUE.is("1 is FIRST and stays so", x.back(1), -2);
         x.rule(0, 1, 0);
@@ -123,14 +115,14 @@ final class BackTest {
     }
 
     private static void rulesOfWhatIsFirst() {
-        LockedHouse x = houseOf(2, 2);
+        LockedHouse x = Houses.alike(2, 2);
         x.rule(1, 0, 1);
         DUE.is("1 need not be put back", x.back(1), 1);
         DUE.rowIs("1 need not be put back", x, 0);
     }
 
     private static void spentLeavesTheRow() {
-        LockedHouse x = houseOf(2, 3);
+        LockedHouse x = Houses.alike(3, 2);
         x.rule(1, 0, 1);
         x.rule(0, 1, 1);
         DUE.is("two of them", x.back(4), 1);
@@ -139,7 +131,7 @@ final class BackTest {
     }
 
     private static void doneStepsAside() {
-        LockedHouse x = houseOf(2, 1);
+        LockedHouse x = Houses.alike(1, 2);
         x.step(2, 1, 1, 0);
         DUE.is("a STEP was done", x.back(2), 0);
         DUE.is("and the PROP moved", x.back(3), 1);

@@ -7,14 +7,23 @@ final class Due {
         int answer();
     }
 
+    private String name = "";
     private int wrong;
     private int asked;
+
+    /** What is asked from here on belongs to this case. */
+    void begin(String to) {
+        name = to + ": ";
+    }
+
+    int asked() {
+        return asked;
+    }
 
     void is(String call, int got, int want) {
         asked++;
         if (got != want) {
-            wrong++;
-            System.out.println(call + " answered " + got + ", due is " + want);
+            tellWrong(call + " answered " + got + ", due is " + want);
         }
     }
 
@@ -36,8 +45,7 @@ final class Due {
         } catch (RuntimeException e) {
             got = "threw " + e;
         }
-        wrong++;
-        System.out.println(call + " " + got + ", due is NoSuchElementException");
+        tellWrong(call + " " + got + ", due is NoSuchElementException");
     }
 
     void rowIs(String call, LockedHouse house, int... want) {
@@ -48,10 +56,29 @@ final class Due {
         throwsNoSuch(call + ": row(" + want.length + ")", () -> house.row(want.length));
     }
 
+    /** All that count() tells, what 0 .. 8. */
+    void countsAre(String call, LockedHouse house, int... want) {
+        for (int what = 0; what < want.length; what++) {
+            is(call + ": count(" + what + ")", house.count(what), want[what]);
+        }
+    }
+
+    /** All that group() tells, what 0 .. 5. */
+    void groupIs(String call, LockedHouse house, int g, int... want) {
+        for (int what = 0; what < want.length; what++) {
+            is(call + ": group(" + g + ", " + what + ")", house.group(g, what), want[what]);
+        }
+    }
+
     void end(String test) {
         System.out.println(test + ": " + asked + " answers, " + wrong + " wrong");
         if (wrong != 0 || asked == 0) {
             System.exit(1);
         }
+    }
+
+    private void tellWrong(String what) {
+        wrong++;
+        System.out.println(name + what);
     }
 }

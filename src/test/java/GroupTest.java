@@ -13,26 +13,8 @@ final class GroupTest {
         leaves();
         alarms();
         logs();
-        longLog();
         rows();
         DUE.end("GroupTest");
-    }
-
-    /** One PROP of four STATES that a STEP each puts on: rooms 0, 1, 2; then a STEP for three HANDS in room 3. */
-    private static LockedHouse house() {
-        LockedHouse x = new LockedHouse();
-        x.prop(4, 0);
-        x.prop(2, 0);
-        x.goal(0, 3);
-        for (int s = 0; s < 3; s++) {
-            x.step(0, 1, 10 + s, s);
-            x.need(s, 0, s);
-            x.give(s, 0, s + 1);
-        }
-        x.step(0, 3, 5, 3);
-        x.give(3, 1, 1);
-        x.step(2, 1, 7, 0);
-        return x;
     }
 
     private static void enters() {
@@ -60,7 +42,7 @@ final class GroupTest {
     }
 
     private static void acts() {
-        LockedHouse x = house();
+        LockedHouse x = Houses.corridor();
         DUE.is("no GROUP", x.act(0, 0), -1);
         x.enter(2);
         int[] wrong = {-1, 1, 4, Integer.MAX_VALUE, Integer.MIN_VALUE};
@@ -86,21 +68,21 @@ final class GroupTest {
     }
 
     private static void ownHands() {
-        LockedHouse x = house();
+        LockedHouse x = Houses.corridor();
         x.hands(1);
         x.enter(3);
         x.enter(2);
         DUE.is("three HANDS", x.act(0, 3), 1);
         x.leave(0);
         DUE.is("two HANDS", x.act(1, 3), 0);
-        LockedHouse y = house();
+        LockedHouse y = Houses.corridor();
         y.hands(9);
         y.enter(2);
         DUE.is("nine are told, two play", y.act(0, 3), 0);
     }
 
     private static void rooms() {
-        LockedHouse x = house();
+        LockedHouse x = Houses.corridor();
         x.enter(1);
         x.enter(1);
         DUE.is("into room 0", x.act(0, 0), 1);
@@ -121,7 +103,7 @@ final class GroupTest {
     }
 
     private static void cantComesAheadOfRoom() {
-        LockedHouse x = house();
+        LockedHouse x = Houses.corridor();
         x.enter(3);
         x.enter(1);
         x.act(0, 3);
@@ -133,7 +115,7 @@ final class GroupTest {
     }
 
     private static void endOfAGroup() {
-        LockedHouse x = house();
+        LockedHouse x = Houses.corridor();
         x.enter(9);
         x.enter(9);
         x.act(0, 0);
@@ -150,7 +132,7 @@ final class GroupTest {
     }
 
     private static void whatOfAGroup() {
-        LockedHouse x = house();
+        LockedHouse x = Houses.corridor();
         DUE.throwsNoSuch("no GROUP", () -> x.group(0, 0));
         x.enter(1);
         int[] noGroups = {-1, 1, 3, 4, Integer.MAX_VALUE, Integer.MIN_VALUE};
@@ -166,7 +148,7 @@ final class GroupTest {
     }
 
     private static void leaves() {
-        LockedHouse x = house();
+        LockedHouse x = Houses.corridor();
         int[] wrong = {-1, 0, 3, 4, Integer.MAX_VALUE, Integer.MIN_VALUE};
         for (int g : wrong) {
             DUE.is("leave(" + g + ")", x.leave(g), -1);
@@ -184,7 +166,7 @@ final class GroupTest {
     }
 
     private static void alarms() {
-        LockedHouse x = house();
+        LockedHouse x = Houses.corridor();
         x.back(1);
         DUE.is("none plays", x.alarm(), 0);
         DUE.rowIs("none plays", x);
@@ -211,7 +193,7 @@ final class GroupTest {
     }
 
     private static void logs() {
-        LockedHouse x = house();
+        LockedHouse x = Houses.corridor();
         DUE.is("none", x.log(0, 0), -1);
         x.enter(1);
         x.enter(3);
@@ -237,38 +219,8 @@ final class GroupTest {
         DUE.is("but for clear", x.log(0, 0), -1);
     }
 
-    private static void longLog() {
-        LockedHouse x = new LockedHouse();
-        x.prop(4, 0);
-        x.prop(2, 0);
-        x.goal(1, 1);
-        for (int s = 0; s < 4; s++) {
-            x.step(0, 1, 1, s);
-            x.give(s, 0, s);
-        }
-        x.enter(1);
-        for (int n = 0; n < 200; n++) {
-            x.act(0, n % 4);
-        }
-        DUE.is("the earliest of 200", x.log(0, 1), 0);
-        DUE.is("the latest of 200", x.log(199, 1), 3);
-        DUE.is("no more", x.log(200, 1), -1);
-        for (int n = 200; n < 401; n++) {
-            x.act(0, n % 3);
-        }
-        DUE.is("MOVES in all", x.count(7), 401);
-        DUE.is("its MOVES", x.group(0, 4), 401);
-        DUE.is("its TICKS", x.group(0, 2), 401);
-        for (int i = 0; i < 200; i++) {
-            DUE.is("log(" + i + ", 1)", x.log(i, 1), (201 + i) % 3);
-            DUE.is("log(" + i + ", 2)", x.log(i, 2), (201 + i) % 3);
-            DUE.is("log(" + i + ", 0)", x.log(i, 0), 0);
-        }
-        DUE.is("only 200", x.log(200, 0), -1);
-    }
-
     private static void rows() {
-        LockedHouse x = house();
+        LockedHouse x = Houses.corridor();
         DUE.throwsNoSuch("nothing told", () -> x.row(0));
         x.way(0);
         DUE.rowIs("way", x, 0, 1, 2);

@@ -15,14 +15,6 @@ final class SensorTest {
         DUE.end("SensorTest");
     }
 
-    private static LockedHouse still(int props) {
-        LockedHouse x = new LockedHouse();
-        for (int p = 0; p < props; p++) {
-            x.prop(2, 0);
-        }
-        return x;
-    }
-
     private static void readings() {
         LockedHouse x = new LockedHouse();
         DUE.no("no PROP", x.reading(0, 0));
@@ -52,7 +44,7 @@ final class SensorTest {
     }
 
     private static void propLeavesNone() {
-        LockedHouse x = still(3);
+        LockedHouse x = Houses.alike(3, 2);
         x.reading(0, 1);
         x.reading(2, 1);
         DUE.is("two", x.liars(), 2);
@@ -67,7 +59,7 @@ final class SensorTest {
     }
 
     private static void refusedPropLeavesThem() {
-        LockedHouse x = still(2);
+        LockedHouse x = Houses.alike(2, 2);
         x.reading(0, 1);
         DUE.is("refused", x.prop(5, 0), -1);
         DUE.is("as they were", x.liars(), 1);
@@ -78,7 +70,7 @@ final class SensorTest {
     }
 
     private static void oneToThree() {
-        LockedHouse x = still(12);
+        LockedHouse x = Houses.alike(12, 2);
         for (int p = 0; p < 12; p++) {
             x.reading(p, p % 5 == 1 ? 1 : 0);
         }
@@ -90,7 +82,7 @@ final class SensorTest {
     }
 
     private static void fourAreSpent() {
-        LockedHouse x = still(5);
+        LockedHouse x = Houses.alike(5, 2);
         x.reading(0, 1);
         x.reading(1, 1);
         x.reading(4, 1);
@@ -103,7 +95,7 @@ final class SensorTest {
     }
 
     private static void firstSet() {
-        LockedHouse x = still(4);
+        LockedHouse x = Houses.alike(4, 2);
         x.goal(3, 1);
         int s = x.step(0, 1, 1, 0);
         x.give(s, 0, 1);
@@ -116,7 +108,7 @@ final class SensorTest {
     }
 
     private static void firstSetOfTwo() {
-        LockedHouse x = still(5);
+        LockedHouse x = Houses.alike(5, 2);
         x.goal(4, 1);
         int s = x.step(0, 1, 1, 0);
         for (int p = 0; p < 4; p++) {
@@ -155,7 +147,7 @@ final class SensorTest {
     }
 
     private static void onlyReachedCodes() {
-        LockedHouse x = still(2);
+        LockedHouse x = Houses.alike(2, 2);
         x.goal(0, 1);
         int s = x.step(0, 3, 1, 0);
         x.give(s, 1, 1);

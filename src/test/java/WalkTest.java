@@ -23,27 +23,12 @@ final class WalkTest {
         musts();
         idles();
         asksAnewWhenBuilt();
-        longWay();
         longerWay();
         DUE.end("WalkTest");
     }
 
-    private static LockedHouse houseOf(int... states) {
-        LockedHouse x = new LockedHouse();
-        for (int k : states) {
-            x.prop(k, 0);
-        }
-        return x;
-    }
-
-    private static void step(LockedHouse x, int ticks, int needState, int giveState) {
-        int s = x.step(0, 1, ticks, 0);
-        x.need(s, 0, needState);
-        x.give(s, 0, giveState);
-    }
-
     private static void kinds() {
-        LockedHouse x = houseOf(2, 2, 2);
+        LockedHouse x = Houses.of(2, 2, 2);
         x.goal(2, 1);
         for (int kind = 0; kind < 4; kind++) {
             x.step(kind, 1, 1, 0);
@@ -67,7 +52,7 @@ final class WalkTest {
     }
 
     private static void lastAsksForEveryOnce() {
-        LockedHouse x = houseOf(2);
+        LockedHouse x = Houses.of(2);
         x.goal(0, 1);
         x.step(3, 1, 1, 0);
         DUE.is("no ONCE at all", x.open(0), 1);
@@ -113,7 +98,7 @@ final class WalkTest {
     }
 
     private static void noSuchCodes() {
-        LockedHouse x = houseOf(2, 2);
+        LockedHouse x = Houses.of(2, 2);
         x.goal(0, 1);
         x.step(0, 1, 1, 0);
         x.give(0, 0, 1);
@@ -135,11 +120,11 @@ final class WalkTest {
     }
 
     private static void endStopsMoves() {
-        LockedHouse x = houseOf(4);
+        LockedHouse x = Houses.of(4);
         x.goal(0, 2);
-        step(x, 1, 0, 1);
-        step(x, 1, 1, 2);
-        step(x, 1, 2, 3);
+        Houses.go(x, 1, 0, 1);
+        Houses.go(x, 1, 1, 2);
+        Houses.go(x, 1, 2, 3);
         DUE.is("reached", x.reached(), 3);
         DUE.is("behind THE END", x.behind(2, 2), -1);
         DUE.is("open at THE END", x.open(2), 0);
@@ -151,12 +136,12 @@ final class WalkTest {
     }
 
     private static void leastAndHint() {
-        LockedHouse x = houseOf(4);
+        LockedHouse x = Houses.of(4);
         x.goal(0, 3);
-        step(x, 100, 0, 3);
-        step(x, 33, 0, 1);
-        step(x, 33, 1, 2);
-        step(x, 33, 2, 3);
+        Houses.go(x, 100, 0, 3);
+        Houses.go(x, 33, 0, 1);
+        Houses.go(x, 33, 1, 2);
+        Houses.go(x, 33, 2, 3);
         DUE.is("three are less than one", x.least(0), 99);
         DUE.is("hint", x.hint(0), 1);
         DUE.is("way", x.way(0), 3);
@@ -170,7 +155,7 @@ final class WalkTest {
 
     /** Nodes are CODES: a way found late makes one less that waited behind others. */
     private static void leastFoundLate() {
-        LockedHouse x = houseOf(4, 4);
+        LockedHouse x = Houses.of(4, 4);
         x.goal(0, 0);
         x.goal(1, 0);
         edge(x, 1, 0, 90);
@@ -198,14 +183,14 @@ final class WalkTest {
     }
 
     private static void hintIsTheLeastStepOfALeastWay() {
-        LockedHouse x = houseOf(4);
+        LockedHouse x = Houses.of(4);
         x.goal(0, 3);
-        step(x, 1, 0, 0);
-        step(x, 4, 0, 2);
-        step(x, 3, 0, 1);
-        step(x, 5, 0, 3);
-        step(x, 2, 1, 3);
-        step(x, 1, 2, 3);
+        Houses.go(x, 1, 0, 0);
+        Houses.go(x, 4, 0, 2);
+        Houses.go(x, 3, 0, 1);
+        Houses.go(x, 5, 0, 3);
+        Houses.go(x, 2, 1, 3);
+        Houses.go(x, 1, 2, 3);
         DUE.is("least", x.least(0), 5);
         DUE.is("hint", x.hint(0), 1);
         DUE.is("way", x.way(0), 2);
@@ -214,10 +199,10 @@ final class WalkTest {
 
     /** SPENT is a number too: the sum of a STEP's TICKS and it is no way. */
     private static void hintGoesToNoLostCode() {
-        LockedHouse x = houseOf(4);
+        LockedHouse x = Houses.of(4);
         x.goal(0, 3);
-        step(x, 5, 0, 1);
-        step(x, 3, 0, 3);
+        Houses.go(x, 5, 0, 1);
+        Houses.go(x, 3, 0, 3);
         DUE.is("least", x.least(0), 3);
         DUE.is("hint", x.hint(0), 1);
         DUE.is("least of lost", x.least(1), -2);
@@ -228,32 +213,32 @@ final class WalkTest {
     }
 
     private static void longestOfADag() {
-        LockedHouse x = houseOf(4);
+        LockedHouse x = Houses.of(4);
         x.goal(0, 3);
         DUE.is("no MOVE", x.longest(), 0);
-        step(x, 100, 0, 3);
+        Houses.go(x, 100, 0, 3);
         DUE.is("one MOVE", x.longest(), 100);
-        step(x, 60, 0, 1);
-        step(x, 50, 1, 2);
+        Houses.go(x, 60, 0, 1);
+        Houses.go(x, 50, 1, 2);
         DUE.is("on to anywhere", x.longest(), 110);
-        step(x, 1, 2, 3);
-        step(x, 7, 1, 3);
+        Houses.go(x, 1, 2, 3);
+        Houses.go(x, 7, 1, 3);
         DUE.is("by all", x.longest(), 111);
     }
 
     private static void longestOfRings() {
-        LockedHouse x = houseOf(3, 2);
+        LockedHouse x = Houses.of(3, 2);
         x.goal(1, 1);
-        step(x, 1, 0, 0);
+        Houses.go(x, 1, 0, 0);
         DUE.is("to itself", x.longest(), -2);
-        LockedHouse y = houseOf(3, 2);
+        LockedHouse y = Houses.of(3, 2);
         y.goal(1, 1);
-        step(y, 1, 0, 1);
-        step(y, 1, 1, 2);
+        Houses.go(y, 1, 0, 1);
+        Houses.go(y, 1, 1, 2);
         DUE.is("no ring yet", y.longest(), 2);
-        step(y, 1, 2, 1);
+        Houses.go(y, 1, 2, 1);
         DUE.is("a ring away from the FIRST CODE", y.longest(), -2);
-        LockedHouse z = houseOf(3);
+        LockedHouse z = Houses.of(3);
         z.step(2, 1, 9, 0);
         z.goal(0, 1);
         DUE.is("ONCE is no ring", z.longest(), 9);
@@ -262,21 +247,21 @@ final class WalkTest {
     }
 
     private static void longestCountsRingsOnlyWhereReached() {
-        LockedHouse x = houseOf(4);
+        LockedHouse x = Houses.of(4);
         x.goal(0, 1);
-        step(x, 8, 0, 1);
-        step(x, 1, 2, 2);
-        step(x, 1, 1, 0);
+        Houses.go(x, 8, 0, 1);
+        Houses.go(x, 1, 2, 2);
+        Houses.go(x, 1, 1, 0);
         DUE.is("rings not REACHED, or through THE END", x.longest(), 8);
     }
 
     private static void traps() {
-        LockedHouse x = houseOf(4, 2);
+        LockedHouse x = Houses.of(4, 2);
         x.goal(1, 1);
-        step(x, 1, 0, 2);
-        step(x, 1, 2, 1);
-        step(x, 1, 2, 3);
-        step(x, 1, 1, 3);
+        Houses.go(x, 1, 0, 2);
+        Houses.go(x, 1, 2, 1);
+        Houses.go(x, 1, 2, 3);
+        Houses.go(x, 1, 1, 3);
         int home = x.step(0, 1, 1, 0);
         x.give(home, 1, 1);
         x.need(home, 0, 1);
@@ -288,11 +273,11 @@ final class WalkTest {
     }
 
     private static void trapOnlyWhereReached() {
-        LockedHouse x = houseOf(4);
+        LockedHouse x = Houses.of(4);
         x.goal(0, 1);
-        step(x, 1, 2, 3);
-        step(x, 1, 2, 1);
-        step(x, 1, 0, 1);
+        Houses.go(x, 1, 2, 3);
+        Houses.go(x, 1, 2, 1);
+        Houses.go(x, 1, 0, 1);
         DUE.is("a trap not REACHED", x.trap(), 0);
         DUE.is("lost not REACHED", x.lost(), 0);
         DUE.is("least of what is not REACHED", x.least(2), 1);
@@ -300,9 +285,9 @@ final class WalkTest {
     }
 
     private static void trapsLeaveTheRow() {
-        LockedHouse x = houseOf(2);
+        LockedHouse x = Houses.of(2);
         x.goal(0, 1);
-        step(x, 3, 0, 1);
+        Houses.go(x, 3, 0, 1);
         x.way(0);
         DUE.is("trap 0", x.trap(), 0);
         DUE.rowIs("trap 0", x, 0);
@@ -313,10 +298,10 @@ final class WalkTest {
     }
 
     private static void lostStart() {
-        LockedHouse x = houseOf(3);
+        LockedHouse x = Houses.of(3);
         x.goal(0, 2);
-        step(x, 1, 0, 1);
-        step(x, 1, 1, 0);
+        Houses.go(x, 1, 0, 1);
+        Houses.go(x, 1, 1, 0);
         DUE.is("trap", x.trap(), 2);
         DUE.is("lost", x.lost(), 2);
         x.goal(0, 1);
@@ -324,7 +309,7 @@ final class WalkTest {
     }
 
     private static void musts() {
-        LockedHouse x = houseOf(2, 3, 2);
+        LockedHouse x = Houses.of(2, 3, 2);
         x.goal(2, 1);
         int key = x.step(0, 1, 1, 0);
         x.give(key, 0, 1);
@@ -354,13 +339,13 @@ final class WalkTest {
     }
 
     private static void idles() {
-        LockedHouse x = houseOf(3);
+        LockedHouse x = Houses.of(3);
         x.goal(0, 2);
         x.step(0, 3, 1, 0);
         x.give(0, 0, 1);
-        step(x, 1, 1, 2);
-        step(x, 1, 0, 2);
-        step(x, 1, 2, 0);
+        Houses.go(x, 1, 1, 2);
+        Houses.go(x, 1, 0, 2);
+        Houses.go(x, 1, 2, 0);
         DUE.is("idle", x.idle(), 3);
         DUE.rowIs("idle", x, 0, 1, 3);
         x.hands(3);
@@ -369,7 +354,7 @@ final class WalkTest {
     }
 
     private static void asksAnewWhenBuilt() {
-        LockedHouse x = houseOf(3);
+        LockedHouse x = Houses.of(3);
         DUE.is("one", x.reached(), 1);
         x.goal(0, 2);
         DUE.is("trap", x.trap(), 2);
@@ -391,28 +376,10 @@ final class WalkTest {
         DUE.is("longest when cleared", x.longest(), 0);
     }
 
-    /** Four places of four STATES count up to 3333; the way goes through all of them. */
-    private static void longWay() {
-        LockedHouse x = houseOf(4, 4, 4, 4);
-        buildCounter(x);
-        for (int p = 0; p < 4; p++) {
-            x.goal(p, 3);
-        }
-        DUE.is("ALL", x.count(3), 256);
-        DUE.is("reached", x.reached(), 256);
-        DUE.is("least", x.least(0), 255);
-        DUE.is("longest", x.longest(), 255);
-        DUE.is("way", x.way(0), 255);
-        for (int n = 0; n < 255; n++) {
-            DUE.is("row " + n, x.row(n), counterStep(n));
-        }
-        DUE.throwsNoSuch("row 255", () -> x.row(255));
-    }
-
     /** Each ONCE sets the counter back: the way is far longer than the rows of a small house. */
     private static void longerWay() {
-        LockedHouse x = houseOf(4, 4, 4, 4, 2);
-        buildCounter(x);
+        LockedHouse x = Houses.of(4, 4, 4, 4, 2);
+        Houses.counter(x);
         x.goal(4, 1);
         for (int s = 12; s < 17; s++) {
             x.step(s < 16 ? 2 : 3, 1, 1, 0);
@@ -435,34 +402,9 @@ final class WalkTest {
         DUE.is("trap", x.trap(), 0);
         DUE.is("way", x.way(0), 5 * 256);
         for (int n = 0; n < 5 * 256; n++) {
-            int want = n % 256 == 255 ? 12 + n / 256 : counterStep(n % 256);
+            int want = n % 256 == 255 ? 12 + n / 256 : Houses.counterStep(n % 256);
             DUE.is("row " + n, x.row(n), want);
         }
         DUE.throwsNoSuch("row 1280", () -> x.row(1280));
-    }
-
-    private static void buildCounter(LockedHouse x) {
-        for (int p = 0; p < 4; p++) {
-            for (int from = 0; from < 3; from++) {
-                int s = x.step(0, 1, 1, 0);
-                x.need(s, p, from);
-                x.give(s, p, from + 1);
-                for (int low = 0; low < p; low++) {
-                    x.need(s, low, 3);
-                    x.give(s, low, 0);
-                }
-            }
-        }
-    }
-
-    /** The STEP by which the counter goes on from n. */
-    private static int counterStep(int n) {
-        int place = 0;
-        int rest = n;
-        while (rest % 4 == 3) {
-            rest /= 4;
-            place++;
-        }
-        return place * 3 + rest % 4;
     }
 }
