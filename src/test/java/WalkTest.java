@@ -1,3 +1,5 @@
+import java.util.Random;
+
 /** Promises 12 to 24. */
 final class WalkTest {
     private static final Due DUE = new Due();
@@ -24,6 +26,9 @@ final class WalkTest {
         idles();
         asksAnewWhenBuilt();
         longerWay();
+        for (int seed = 0; seed < 12; seed++) {
+            leastOfALargeHouse(new Random(seed));
+        }
         DUE.end("WalkTest");
     }
 
@@ -406,5 +411,38 @@ final class WalkTest {
             DUE.is("row " + n, x.row(n), want);
         }
         DUE.throwsNoSuch("row 1280", () -> x.row(1280));
+    }
+
+    /** As TICKS are more than 0, only the true sums are at each CODE the least of a MOVE and the rest. */
+    private static void leastOfALargeHouse(Random random) {
+        LockedHouse x = Houses.largest();
+        int[] ticks = new int[24];
+        for (int s = 0; s < ticks.length; s++) {
+            ticks[s] = 1 + random.nextInt(100);
+            x.step(random.nextInt(2), 1, ticks[s], 0);
+            for (int n = random.nextInt(3); n > 0; n--) {
+                x.need(s, random.nextInt(9), random.nextInt(3));
+            }
+            for (int n = 1 + random.nextInt(3); n > 0; n--) {
+                x.give(s, random.nextInt(9), random.nextInt(3));
+            }
+        }
+        x.goal(0, 1);
+        x.goal(4, 2);
+        x.goal(8, 1);
+        for (int code = 0; code < x.count(3); code++) {
+            boolean isEnd = x.part(code, 0, 0) == 1 && x.part(code, 0, 4) == 2 && x.part(code, 0, 8) == 1;
+            int best = isEnd ? 0 : Integer.MAX_VALUE;
+            int first = LockedHouse.NONE;
+            for (int s = 0; s < ticks.length; s++) {
+                int next = x.behind(code, s);
+                if (next >= 0 && x.least(next) >= 0 && ticks[s] + x.least(next) < best) {
+                    best = ticks[s] + x.least(next);
+                    first = s;
+                }
+            }
+            DUE.is("least " + code, x.least(code), best == Integer.MAX_VALUE ? LockedHouse.SPENT : best);
+            DUE.is("hint " + code, x.hint(code), first);
+        }
     }
 }
