@@ -13,6 +13,7 @@ final class WalkTest {
         endStopsMoves();
         leastAndHint();
         leastFoundLate();
+        leastWhereTwoWait();
         hintIsTheLeastStepOfALeastWay();
         hintGoesToNoLostCode();
         longestOfADag();
@@ -177,6 +178,23 @@ final class WalkTest {
         }
         DUE.is("way", x.way(6), 4);
         DUE.rowIs("way", x, 7, 5, 4, 2);
+    }
+
+    /** Two wait, the one put in later with the greater sum: what leans on it comes out right only if it waits. */
+    private static void leastWhereTwoWait() {
+        LockedHouse x = Houses.of(4, 4);
+        x.goal(0, 0);
+        x.goal(1, 0);
+        edge(x, 1, 0, 1);
+        edge(x, 2, 0, 2);
+        edge(x, 3, 0, 10);
+        edge(x, 3, 2, 2);
+        edge(x, 4, 3, 1);
+        edge(x, 5, 4, 1);
+        int[] want = {0, 1, 2, 4, 5, 6, -2};
+        for (int c = 0; c < want.length; c++) {
+            DUE.is("least " + c, x.least(c), want[c]);
+        }
     }
 
     private static void edge(LockedHouse x, int from, int to, int ticks) {
