@@ -149,7 +149,7 @@ public final class LockedHouse {
             case 1:
                 return house.steps.size();
             case 2:
-                return house.end.size;
+                return house.end.size();
             case 3:
                 return house.all;
             case 4:
@@ -488,34 +488,45 @@ public final class LockedHouse {
         }
     }
 
+    /** A PROP and a STATE of it. */
+    private static final class Pair {
+        final Prop prop;
+        final int state;
+
+        Pair(Prop prop, int state) {
+            this.prop = prop;
+            this.state = state;
+        }
+    }
+
     /** Pairs of a PROP and a STATE. */
     private static final class Pairs {
-        private final ArrayList<Prop> props = new ArrayList<>();
-        private final int[] states;
-        int size;
+        private final ArrayList<Pair> pairs = new ArrayList<>();
+        private final int most;
 
         Pairs(int most) {
-            states = new int[Math.max(0, most)];
+            this.most = most;
+        }
+
+        int size() {
+            return pairs.size();
         }
 
         boolean add(Prop prop, int state) {
-            if (size >= states.length) {
+            if (pairs.size() >= most) {
                 return false;
             }
-            props.add(prop);
-            states[size] = state;
-            size++;
+            pairs.add(new Pair(prop, state));
             return true;
         }
 
         void empty() {
-            props.clear();
-            size = 0;
+            pairs.clear();
         }
 
         boolean names(int prop) {
-            for (int i = 0; i < size; i++) {
-                if (props.get(i).number == prop) {
+            for (int i = 0; i < pairs.size(); i++) {
+                if (pairs.get(i).prop.number == prop) {
                     return true;
                 }
             }
@@ -523,8 +534,9 @@ public final class LockedHouse {
         }
 
         boolean areAll(int code) {
-            for (int i = 0; i < size; i++) {
-                if (props.get(i).stateIn(code) != states[i]) {
+            for (int i = 0; i < pairs.size(); i++) {
+                Pair pair = pairs.get(i);
+                if (pair.prop.stateIn(code) != pair.state) {
                     return false;
                 }
             }
@@ -532,8 +544,9 @@ public final class LockedHouse {
         }
 
         boolean isAny(int code) {
-            for (int i = 0; i < size; i++) {
-                if (props.get(i).stateIn(code) == states[i]) {
+            for (int i = 0; i < pairs.size(); i++) {
+                Pair pair = pairs.get(i);
+                if (pair.prop.stateIn(code) == pair.state) {
                     return true;
                 }
             }
@@ -542,8 +555,9 @@ public final class LockedHouse {
 
         int codeWith(int code) {
             int with = code;
-            for (int i = 0; i < size; i++) {
-                with = props.get(i).codeWith(with, states[i]);
+            for (int i = 0; i < pairs.size(); i++) {
+                Pair pair = pairs.get(i);
+                with = pair.prop.codeWith(with, pair.state);
             }
             return with;
         }
@@ -551,8 +565,8 @@ public final class LockedHouse {
         /** In how many ways the STATES of these PROPS can be. */
         int variants() {
             int many = 1;
-            for (int i = 0; i < size; i++) {
-                many *= props.get(i).states;
+            for (int i = 0; i < pairs.size(); i++) {
+                many *= pairs.get(i).prop.states;
             }
             return many;
         }
@@ -560,8 +574,8 @@ public final class LockedHouse {
         int codeOfVariant(int code, int variant) {
             int with = code;
             int rest = variant;
-            for (int i = 0; i < size; i++) {
-                Prop prop = props.get(i);
+            for (int i = 0; i < pairs.size(); i++) {
+                Prop prop = pairs.get(i).prop;
                 with = prop.codeWith(with, rest % prop.states);
                 rest /= prop.states;
             }
@@ -720,9 +734,9 @@ public final class LockedHouse {
         int orderBack(int code, int[] order) {
             int at = code;
             int many = 0;
-            for (int n = 0; n < props.size() && n < order.length; n++) {
+            for (int n = 0; n < props.size(); n++) {
                 int prop = nextBack(at);
-                if (prop == NONE) {
+                if (prop == NONE || many >= order.length) {
                     break;
                 }
                 order[many] = prop;
@@ -766,7 +780,7 @@ public final class LockedHouse {
                 return false;
             }
             if (step.kind == EITHER) {
-                return step.needs.size == 0 || step.needs.isAny(code);
+                return step.needs.size() == 0 || step.needs.isAny(code);
             }
             return step.needs.areAll(code) && (step.kind != LAST || isAllOnceDone(code));
         }

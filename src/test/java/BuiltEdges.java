@@ -546,6 +546,23 @@ final class BuiltEdges {
         due.is("asked for", x.least(0), SPENT);
     }
 
+    @Edge("Promise 6: what was asked ahead of a pair is walked anew behind it")
+    static void goalBehindQuestions(Due due) {
+        LockedHouse x = Houses.of(3);
+        Houses.go(x, 4, 0, 1);
+        Houses.go(x, 5, 1, 2);
+        due.is("THE END is always: REACHED", x.reached(), 1);
+        due.is("least", x.least(0), 0);
+        due.is("longest", x.longest(), 0);
+        due.yes("a pair", x.goal(0, 2));
+        due.is("REACHED then", x.reached(), 3);
+        due.is("least then", x.least(0), 9);
+        due.is("longest then", x.longest(), 9);
+        due.yes("one that can't be so too", x.goal(0, 1));
+        due.is("least at last", x.least(0), SPENT);
+        due.is("lost at last", x.lost(), 3);
+    }
+
     // ---- Promise 7: hands
 
     @Edge("Promise 7: below 1 or above 9: false, and HANDS stay")

@@ -27,6 +27,13 @@ final class Due {
         }
     }
 
+    void same(String call, String got, String want) {
+        asked++;
+        if (!got.equals(want)) {
+            tellWrong(call + " answered " + got + ", due is " + want);
+        }
+    }
+
     void yes(String call, boolean got) {
         is(call, got ? 1 : 0, 1);
     }
